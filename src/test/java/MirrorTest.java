@@ -14,6 +14,7 @@ public final class MirrorTest {
     private static final int[] faults = new int[13];
     private static int greatestSize = 0;
     private static int silences = 0;
+    private static int sounding = 0;
     private static int greatestOff = 0;
     private static int capped = 0;
 
@@ -36,11 +37,18 @@ public final class MirrorTest {
         for (int seed = 0; seed < 20; seed++) {
             new MirrorTest("long", seed).runLong();
         }
+        for (int seed = 0; seed < 200; seed++) {
+            new MirrorTest("settled", seed).runSettled();
+        }
         for (int fault = 1; fault <= 12; fault++) {
             if (faults[fault] < 3) {
                 wrong++;
                 System.out.println("fault " + fault + " came only " + faults[fault] + " times");
             }
+        }
+        if (sounding < 20) {
+            wrong++;
+            System.out.println("only " + sounding + " frames that sound were passed over");
         }
         if (silences == 0 || greatestOff < 30000 || capped == 0 || greatestSize < 4000) {
             wrong++;
@@ -279,6 +287,36 @@ public final class MirrorTest {
         for (int i = 0; i < samples.length; i++) {
             due("read back " + i, press.row(i), samples[i]);
         }
+    }
+
+    // A sound that stays is foretold exactly at last, so frames that are not 0 are passed over.
+    private void runSettled() {
+        press.unpass();
+        mirror.plan.clear();
+        int passes = 1 + random.nextInt(3);
+        for (int p = 0; p < passes; p++) {
+            int term = TERMS[random.nextInt(TERMS.length)];
+            press.pass(term, 7);
+            mirror.plan.add(new int[] {term, 7});
+        }
+        int channels = 1 + random.nextInt(2);
+        int[] samples = new int[channels * (300 + random.nextInt(301))];
+        int first = random.nextInt(60) - 30;
+        int second = random.nextInt(60) - 30;
+        int zeros = 0;
+        for (int i = 0; i < samples.length; i++) {
+            samples[i] = i % 2 == 0 || channels == 1 ? first : second;
+            if (i % 50 == 49 && random.nextInt(3) == 0) {
+                samples[i]++;
+            }
+        }
+        for (int i = 0; i < samples.length; i += channels) {
+            zeros += samples[i] == 0 && samples[i + channels - 1] == 0 ? 1 : 0;
+        }
+        sayAll(samples);
+        encode(channels, random.nextBoolean(), 0);
+        sounding += Math.max(0, press.look(7) - zeros) * (press.look(2) % 4 == 1 ? 1 : 0);
+        readBack(samples, 0);
     }
 
     // ---- streams that were harmed

@@ -281,6 +281,15 @@ public final class PromisesTest {
         due("twin with error", x.look(2), 11);
         x.encode(1, true, 0);
         due("joint of one", x.look(2), 0);
+        int[] full = new int[1200];
+        full[1199] = 4;
+        setRow(x, full);
+        x.encode(2, false, 0);
+        due("no twin at the last frame", x.look(2), 1);
+        full[1198] = 4;
+        setRow(x, full);
+        x.encode(2, false, 0);
+        due("twin of a full row", x.look(2), 3);
         setRow(x, 3, 3, -5, -6);
         x.encode(2, false, 0);
         due("two", x.look(2), 1);
