@@ -1,6 +1,7 @@
 import java.util.ArrayList;
 import java.util.List;
 import java.util.Random;
+import java.util.stream.IntStream;
 
 /**
  * Many sounds and streams, good and bad ones, through the press and through its mirror: promises 8
@@ -10,7 +11,6 @@ public final class MirrorTest {
     private static final int[] TERMS = {1, 2, 3, 4, 5, 6, 7, 8, 17, 18, -1, -3};
     private static final int[] ERRORS = {0, 0, 0, 1, 2, 3, 7, 10, 100, 1000, 40000, 65535};
 
-    private static int wrong = 0;
     private static final int[] faults = new int[13];
     private static int greatestSize = 0;
     private static int silences = 0;
@@ -19,8 +19,8 @@ public final class MirrorTest {
     private static int capped = 0;
 
     private final Random random;
-    private final SoundPress press = new SoundPress();
-    private final Mirror mirror = new Mirror();
+    private Press press = Press.fresh();
+    private Mirror mirror = new Mirror();
     private final String name;
 
     private MirrorTest(String name, long seed) {
@@ -29,6 +29,10 @@ public final class MirrorTest {
     }
 
     public static void main(String[] args) {
+        Due.run(MirrorTest.class);
+    }
+
+    static void thePressAndItsMirrorAgree() {
         for (int seed = 0; seed < 1500; seed++) {
             new MirrorTest("sounds", seed).runSounds();
             new MirrorTest("harmed", seed).runHarmed();
@@ -36,40 +40,45 @@ public final class MirrorTest {
         }
         for (int seed = 0; seed < 20; seed++) {
             new MirrorTest("long", seed).runLong();
+            new MirrorTest("noisy", seed).runNoisy();
+            new MirrorTest("trained", seed).runTrained();
         }
         for (int seed = 0; seed < 200; seed++) {
             new MirrorTest("settled", seed).runSettled();
         }
+        edgesWereMet();
+    }
+
+    // Chance must not leave out what the document tells of.
+    private static void edgesWereMet() {
         for (int fault = 1; fault <= 12; fault++) {
-            if (faults[fault] < 3) {
-                wrong++;
-                System.out.println("fault " + fault + " came only " + faults[fault] + " times");
-            }
+            Due.yes("fault " + fault + " came, " + faults[fault] + " times,", faults[fault] >= 3);
         }
-        if (sounding < 20) {
-            wrong++;
-            System.out.println("only " + sounding + " frames that sound were passed over");
-        }
-        if (silences == 0 || greatestOff < 30000 || capped == 0 || greatestSize < 4000) {
-            wrong++;
-            System.out.println("edges missed: " + silences + " " + greatestOff + " " + capped + " " + greatestSize);
-        }
-        System.out.println(wrong == 0 ? "the press and its mirror agree" : wrong + " answers differ");
-        if (wrong != 0) {
-            System.exit(1);
-        }
+        Due.yes("frames that sound were passed over, " + sounding + ",", sounding >= 20);
+        Due.yes("there were silences, " + silences + ",", silences > 0);
+        Due.yes("a value was far off, " + greatestOff + ",", greatestOff >= 30000);
+        Due.yes("a rest was beyond all, " + capped + " times,", capped > 0);
+        Due.yes("a stream was long, " + greatestSize + ",", greatestSize >= 4000);
     }
 
     private void due(String call, long got, long want) {
-        if (got != want) {
-            wrong++;
-            if (wrong < 40) {
-                System.out.println(name + ": " + call + " answered " + got + ", due is " + want);
-            }
-        }
+        Due.due(name + ": " + call, got, want);
     }
 
     // ---- what both are asked
+
+    /** All places below n, or where there are many the first and the last and some between. */
+    private int[] places(int n) {
+        if (n <= 120) {
+            return IntStream.range(0, n).toArray();
+        }
+        int[] places = random.ints(80, 0, n).toArray();
+        for (int i = 0; i < 24; i++) {
+            places[i] = i;
+            places[79 - i] = n - 1 - i;
+        }
+        return places;
+    }
 
     private void sayAll(int[] samples) {
         press.cut(0);
@@ -103,7 +112,7 @@ public final class MirrorTest {
         for (int which = 0; which < 2; which++) {
             List<Integer> bytes = mirror.pressed.get(which);
             due(call + " size " + which, press.size(which), bytes.size());
-            for (int i = 0; i < bytes.size(); i++) {
+            for (int i : places(bytes.size())) {
                 due(call + " out " + which + " " + i, press.out(which, i), bytes.get(i));
             }
             due(call + " out behind", press.out(which, bytes.size()), -1);
@@ -143,7 +152,7 @@ public final class MirrorTest {
 
     private void compare(String behind) {
         due(behind + " rows", press.rows(), mirror.row.size());
-        for (int i = 0; i < mirror.row.size(); i++) {
+        for (int i : places(mirror.row.size())) {
             due(behind + " row " + i, press.row(i), mirror.row.get(i));
         }
         for (int what = 0; what < 10; what++) {
@@ -234,30 +243,33 @@ public final class MirrorTest {
         sayAll(samples);
         encode(2, random.nextBoolean(), error);
         readBack(samples, error);
+    }
+
+    private void runNoisy() {
+        makePlan();
+        int[] samples = new int[1200];
         for (int i = 0; i < 1200; i++) {
             samples[i] = noise();
         }
         sayAll(samples);
         encode(2, false, 65535);
         readBack(samples, 65535);
-        trained(samples);
     }
 
     // Weights that a still sound has trained make noise so loud that numbers go round.
-    private void trained(int[] samples) {
-        press.unpass();
-        mirror.plan.clear();
+    private void runTrained() {
         for (int p = 0; p < 8; p++) {
             press.pass(17, 7);
             mirror.plan.add(new int[] {17, 7});
         }
+        int[] samples = new int[1200];
         int calm = 2 * (70 + random.nextInt(80));
         int level = 1 << random.nextInt(23);
         for (int i = 0; i < 1200; i++) {
             samples[i] = i < calm ? level + i % 2 : noise();
         }
+        sayAll(samples);
         for (int error : new int[] {0, 65535, 1}) {
-            sayAll(samples);
             encode(2, error > 0, error);
             greatestSize = Math.max(greatestSize, press.size(0));
             readBack(samples, error);
@@ -272,27 +284,23 @@ public final class MirrorTest {
         if (!takeBoth()) {
             return;
         }
+        decode(false);
         if (error == 0) {
-            decode(false);
             isRow(samples);
-            takeBoth();
         }
+        takeBoth();
         decode(true);
         isRow(samples);
-        takeBoth();
-        decode(false);
     }
 
     private void isRow(int[] samples) {
-        for (int i = 0; i < samples.length; i++) {
+        for (int i : places(samples.length)) {
             due("read back " + i, press.row(i), samples[i]);
         }
     }
 
     // A sound that stays is foretold exactly at last, so frames that are not 0 are passed over.
     private void runSettled() {
-        press.unpass();
-        mirror.plan.clear();
         int passes = 1 + random.nextInt(3);
         for (int p = 0; p < passes; p++) {
             int term = TERMS[random.nextInt(TERMS.length)];
@@ -383,10 +391,12 @@ public final class MirrorTest {
         Mirror.addWord(side, crc);
         Mirror.addBits(side, two.toString());
         Mirror.addWord(side, Mirror.crc(side, side.size()));
-        if (tape.size() > 5900 || side.size() > 5900) {
+        if (tape.size() + side.size() > 5800) {
             return;
         }
         for (int round = 0; round < 2; round++) {
+            press = Press.fresh();
+            mirror = new Mirror();
             feedAll(0, tape);
             feedAll(1, side);
             decode(round == 0);
