@@ -1,4 +1,5 @@
 import java.util.ArrayList;
+import java.util.Arrays;
 import java.util.List;
 import java.util.zip.CRC32;
 
@@ -155,7 +156,7 @@ final class Forge {
     /** The bytes and their CRC. */
     static int[] sealed(int... bytes) {
         int crc = crc(bytes);
-        int[] all = java.util.Arrays.copyOf(bytes, bytes.length + 4);
+        int[] all = Arrays.copyOf(bytes, bytes.length + 4);
         for (int i = 0; i < 4; i++) {
             all[bytes.length + i] = crc >>> (24 - 8 * i) & 255;
         }

@@ -178,6 +178,26 @@ public final class Promise08CodingTest {
         Due.same("stream", Arrays.toString(x.stream(0)), Arrays.toString(due.tape()));
     }
 
+    static void weightsOfBothChannelsLearnInASilence() {
+        Forge due = new Forge(1, 115, 0).pass(1, 7).pass(-3, 7);
+        for (int i = 0; i < 110; i++) {
+            due.frame(-1, -1);
+        }
+        due.silence(2).frame(-1, 0).silence(2);
+        Press x = due.fed();
+        Due.due("decode()", x.decode(), 230);
+        Due.yes("it sounds", x.row(224) < 0 && x.row(225) < 0);
+        Due.due("weight(1, 0)", x.weight(1, 0), 7 * 110);
+        Due.due("weight(1, 1)", x.weight(1, 1), 7 * 109);
+        Due.due("weight(0, 0)", x.weight(0, 0), 7 * 114);
+        Due.due("weight(0, 1)", x.weight(0, 1), 7 * 114);
+        x.pass(1, 7);
+        x.pass(-3, 7);
+        x.encode(2, false, 0);
+        Due.same("stream", Arrays.toString(x.stream(0)), Arrays.toString(due.tape()));
+        Due.due("FRAMES passed over", x.look(7), 4);
+    }
+
     // ---- a REST
 
     static void aRestBelowNoneIsOneNearer() {
@@ -258,6 +278,25 @@ public final class Promise08CodingTest {
         x.setRow(row);
         x.encode(1, false, 0);
         Due.due("M0", x.median(0, 0), 124);
+    }
+
+    private static void fallsTo(int k, int far, int[] rests, int... due) {
+        int[] row = Arrays.copyOf(Promise08EncodeTest.filled(far, 8388607), far + rests.length);
+        System.arraycopy(rests, 0, row, far, rests.length);
+        for (int n = 1; n <= rests.length; n++) {
+            Press x = Press.with(Arrays.copyOf(row, far + n));
+            x.encode(1, false, 0);
+            Due.due("M" + k + " behind " + n, x.median(0, k), due[n - 1]);
+        }
+    }
+
+    static void theOtherMediansFallInTheirSteps() {
+        // Behind 14 far ones M1 is 75 and A0 5, later 6: ONES 1. D1 is 64, so 67 falls by 4, 63 by 2.
+        fallsTo(1, 14, new int[] {5, 5, 6, 6}, 71, 67, 63, 61);
+        // Behind 8 far ones M2 is 45, A0 and A1 are 3: ONES 2. D2 is 32, so 37 falls by 4, 33 by 2.
+        fallsTo(2, 8, new int[] {6, 6, 8, 8}, 41, 37, 33, 31);
+        // Behind 14 far ones M2 is 130, A0 and A1 are 5: 130 and 30 are five times 32.
+        fallsTo(2, 14, new int[] {10}, 120);
     }
 
     static void boundsAreOfA0AsItWas() {

@@ -65,6 +65,8 @@ public final class Promise08EncodeTest {
         refuses(4, true, 0, 1, 2, 3, 4);
         refuses(257, false, 0, 1, 2);
         refuses(Integer.MAX_VALUE, false, 0, 1, 2);
+        // 512 times 8388609 goes round to 512.
+        refuses(8388609, false, 0, filled(512, 1));
     }
 
     static void errorTooSmall() {

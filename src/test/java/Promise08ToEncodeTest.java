@@ -54,6 +54,25 @@ public final class Promise08ToEncodeTest {
         shiftIs(2, 1, row);
     }
 
+    static void whatWasCutDoesNotCountForTheShift() {
+        Press x = Press.with(4, 8, 1, 3);
+        x.cut(2);
+        x.encode(1, false, 0);
+        Due.due("SHIFT", x.look(3), 2);
+        x.setRow(Promise08EncodeTest.filled(1200, 1));
+        x.cut(0);
+        x.say(16, 16, 16, 16, 16);
+        x.encode(1, false, 0);
+        Due.due("SHIFT", x.look(3), 4);
+    }
+
+    static void whatWasCutDoesNotCountForTwins() {
+        Press x = Press.with(4, 4, 1, 3);
+        x.cut(2);
+        x.encode(2, false, 0);
+        Due.due("FLAGS", x.look(2), 3);
+    }
+
     static void valuesAreSamplesShifted() {
         Press x = Press.with(-6, 10, 8388606);
         x.encode(1, false, 0);

@@ -1,4 +1,5 @@
 import java.lang.reflect.Field;
+import java.util.Random;
 
 /** Promise 13: take. */
 public final class Promise13TakeTest {
@@ -93,7 +94,7 @@ public final class Promise13TakeTest {
     }
 
     static void aLongOneFits() {
-        java.util.Random random = new java.util.Random(3);
+        Random random = new Random(3);
         int[] row = new int[1200];
         for (int i = 0; i < row.length; i++) {
             row[i] = random.nextInt(16777216) - 8388608;
@@ -131,7 +132,7 @@ public final class Promise13TakeTest {
             length.setAccessible(true);
             length.setInt(bytes.get(x), n);
             return true;
-        } catch (NoSuchFieldException missing) {
+        } catch (NoSuchFieldException | IllegalArgumentException another) {
             return false;
         }
     }

@@ -1,3 +1,5 @@
+import java.util.Arrays;
+
 /** Promise 15: seal. */
 public final class Promise15SealTest {
     public static void main(String[] args) {
@@ -97,7 +99,7 @@ public final class Promise15SealTest {
         x.seal(0);
         int crc = Forge.crc(0x44);
         int[] whole = Forge.sealed(0x44, crc >>> 24, crc >>> 16 & 255, crc >>> 8 & 255, crc & 255, 9, 9, 9);
-        int sum = Forge.crc(java.util.Arrays.copyOf(whole, 8));
+        int sum = Forge.crc(Arrays.copyOf(whole, 8));
         x.feed(0, 0x09090900 | sum >>> 24, sum << 8, 0);
         x.end(0, 12);
         Due.due("the CRC is right, the first byte is not", x.decode(), -3);

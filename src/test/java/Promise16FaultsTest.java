@@ -278,6 +278,18 @@ public final class Promise16FaultsTest {
         Due.yes("A0 is beyond", forge.median(0, 0) >> 4 >= 2147483647L);
         forge.bits("10").bits("0".repeat(40));
         Due.due("ONES 1", forge.decode(), -5);
+        // A0 and A1 together are, and neither of them alone: ONES 2 are too big, ONES 1 are not.
+        Due.due("ONES 2", withSumBeyond("110").decode(), -5);
+        Due.due("ONES 1", withSumBeyond("10").decode(), -4);
+    }
+
+    private static Forge withSumBeyond(String bits) {
+        Forge forge = new Forge(0, 600, 0);
+        for (int i = 0; i < 590 && (forge.median(0, 0) >> 4) + (forge.median(0, 1) >> 4) + 2 <= 2147483647L; i++) {
+            forge.frame(Integer.MAX_VALUE);
+        }
+        Due.yes("A0 is not beyond", forge.median(0, 0) >> 4 < 2147483647L);
+        return forge.bits(bits).bits("0".repeat(40));
     }
 
     static void bigIsToldAsItIsKnown() {

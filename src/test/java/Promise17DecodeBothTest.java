@@ -96,6 +96,28 @@ public final class Promise17DecodeBothTest {
         x.isRow(row);
     }
 
+    static void ofAShorterSoundBehindALongerOne() {
+        // Nothing that was read of the longer one may be asked for again.
+        for (int n = 1; n < 40; n++) {
+            int[] row = new int[40];
+            for (int i = 0; i < row.length; i++) {
+                row[i] = i * 7919 % 4001 - 2000;
+            }
+            Press x = Press.with(row);
+            x.encode(1, false, 100);
+            x.take(0);
+            x.take(1);
+            Due.due("decodeBoth()", x.decodeBoth(), 40);
+            x.cut(n);
+            x.encode(1, false, 100);
+            x.take(0);
+            x.take(1);
+            x.cut(0);
+            Due.due("decodeBoth()", x.decodeBoth(), n);
+            x.isRow(Arrays.copyOf(row, n));
+        }
+    }
+
     static void bothAreUsedUp() {
         Press x = taken(3);
         Due.due("decodeBoth()", x.decodeBoth(), 10);
