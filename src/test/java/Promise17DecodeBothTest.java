@@ -329,7 +329,11 @@ public final class Promise17DecodeBothTest {
 
     /** Behind it LOW may be MAX and HIGH one more: A0 is 1, A1 and A2 are 2. */
     private static Forge nearMax(int error) {
-        Forge forge = new Forge(0, 8, error);
+        return nearMax(error, 8);
+    }
+
+    private static Forge nearMax(int error, int frames) {
+        Forge forge = new Forge(0, frames, error);
         if (error == 0) {
             forge.silence(0);
         }
@@ -376,6 +380,21 @@ public final class Promise17DecodeBothTest {
         long ones = 2 + (2147483647L - 3) / 2;
         Forge forge = nearMax(1).symbol(0, ones, 2147483648L, false).sideBits("00000000");
         Due.due("REST and BOTH", forge.decodeBoth(), -11);
+    }
+
+    static void endCountsAheadOfBoth() {
+        // The V that is too big is read well ahead of the SIDE's end.
+        Forge forge = nearMax(1, 40).symbol(0, 2 + (2147483647L - 3) / 2, 2147483648L, false);
+        for (int i = 8; i < 40; i++) {
+            forge.frame(1000);
+        }
+        Press x = forge.fed();
+        int n = x.count(3);
+        Due.yes("some bytes of bits", n > 11);
+        Due.due("all of it", x.again().decodeBoth(), -12);
+        x.end(1, n - 1);
+        x.seal(1);
+        isFault("END and BOTH", x, 10);
     }
 
     // ---- what it gives
